@@ -100,7 +100,9 @@ public final class TaleMachine {
     public int run(int fuel) {
         int most = Math.min(fuel, MOST_FUEL);
         for (int done = 0; done < most && teller.outcome == UNDER_WAY; done++) {
-            teller.step();
+            if (!teller.perform()) {
+                teller.halt(FAULT);
+            }
         }
         return teller.outcome;
     }
@@ -212,9 +214,8 @@ public final class TaleMachine {
             return first != NONE && first < LENGTHS.length && place + LENGTHS[first] <= length ? first : NONE;
         }
 
-        /** The place behind an instruction that stands there whole. */
         int behind(int place, int instruction) {
-            return place + LENGTHS[instruction];
+            return instruction == NONE ? place : place + LENGTHS[instruction];
         }
 
         /** Whether a method that can be called with so many arguments stands there up to its beginning. */
@@ -665,20 +666,11 @@ public final class TaleMachine {
             }
         }
 
-        void step() {
+        /** Does one instruction of the topmost frame. */
+        boolean perform() {
             Frame f = top();
             int instruction = script.instruction(f.place);
-            if (instruction == NONE) {
-                halt(FAULT);
-                return;
-            }
             f.behind = script.behind(f.place, instruction);
-            if (!perform(f, instruction)) {
-                halt(FAULT);
-            }
-        }
-
-        private boolean perform(Frame f, int instruction) {
             int b = script.at(f.place + 1);
             switch (instruction) {
                 case NOTHING: return goOn(f);
@@ -842,7 +834,7 @@ public final class TaleMachine {
             if (kind == METHOD) {
                 return enter(number, n, above, o, holder);
             }
-            if (n != 0 || values.count - above >= MOST_VALUES) {
+            if (n != 0) {
                 return false;
             }
             values.count -= above;

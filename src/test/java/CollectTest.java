@@ -2,7 +2,9 @@
 final class CollectTest implements Instructions {
     public static void main(String[] args) {
         stackAndSelf();
+        selfOfTheLowestFrame();
         found();
+        all();
         afterAFaultAndAStop();
         resultCounts();
         ways();
@@ -30,14 +32,40 @@ final class CollectTest implements Instructions {
         Check.same("it is 17", there(m), "0 1 2 17");
     }
 
+    private static void selfOfTheLowestFrame() {
+        TaleMachine m = Tale.with(0, 0, 0, MAKE, 0, END, 0, 0, 0, CALL, 0, 0, 14, END, 0, 0, 0, NOTHING, END_NIL);
+        m.property(0, 0, METHOD, 0);
+        m.property(0, 1, METHOD, 6);
+        m.begin(0, 0);
+        m.run(9);
+        m.begin(16, 1);
+        m.run(1);
+        Check.same("two frames", m.show(0) + " " + m.collect() + " " + there(m), "2 0 0 1 2 16");
+        m.run(9);
+        Check.same("no frames", m.show(0) + " " + m.collect() + " " + there(m), "0 1 0 1 2");
+    }
+
+    private static void all() {
+        TaleMachine m = new TaleMachine();
+        for (int o = 0; o < 16; o++) {
+            m.object(-1, -1, -1);
+        }
+        // Each made object is the parent of the next one, and 31 is the result.
+        int[] code = {0, 0, 0};
+        for (int o = 15; o < 31; o++) {
+            code = Tale.join(code, Tale.bytes(MAKE, o, DROP));
+        }
+        Tale.write(m, Tale.join(code, Tale.bytes(PUT_OBJECT, 31, END)));
+        m.property(0, 0, METHOD, 0);
+        m.begin(0, 0);
+        Check.same("ended", m.run(99), 1);
+        Check.same("all 32 are come to", m.collect() + " " + m.show(4), "0 32");
+        m.begin(0, 0);
+        Check.same("all made ones go", m.collect() + " " + m.show(4), "16 16");
+    }
+
     private static void found() {
         // The method is found in 16, SELF is 17, made of 16; brought back, 17 is made of 0.
-        TaleMachine m = Tale.begun(
-                0, 0, 0, MAKE, 0, DROP, MAKE, 0, DROP, SAVE, 0, LOAD, 1, UNLESS, 8,
-                0, 0, 0, 0, 0, 0, 0, 0,
-                END_NIL);
-        m.run(3000);
-        Check.same("16 and 17 are made of 0", there(m), "0 1 2 16 17");
         TaleMachine n = Tale.with(
                 0, 0, 0, MAKE, 0, DROP, MAKE, 0, DROP, SAVE, 0, END_NIL,
                 0, 0, 0, MAKE, 0, DROP, MAKE, 16, DROP, PUT_METHOD, 0, 36, PUT_OBJECT, 16, SET, 0,
@@ -87,7 +115,7 @@ final class CollectTest implements Instructions {
     }
 
     private static void ways() {
-        // 16 is a fixed object's, 17 is 16's, 18 is 17's parent's child: 19, made of 18, is the result; 20 and 21 have each other.
+        // 1 has 16, and 16 has 17; the result is 19, made of 18; 20 and 21 have each other alone.
         TaleMachine m = Tale.begun(
                 0, 0, 0, MAKE, 0, PUT_OBJECT, 1, SET, 3, MAKE, 0, PUT_OBJECT, 16, SET, 5,
                 MAKE, 0, DROP, MAKE, 18, MAKE, 0, PUT_OBJECT, 20, MAKE, 0, SET, 0,
@@ -100,6 +128,24 @@ final class CollectTest implements Instructions {
         Check.same("a NUMBER is no OBJECT", m.collect() + " " + there(m), "1 0 1 2 16 18 19");
         m.property(1, 3, -1, 16);
         Check.same("an own value that is gone", m.collect() + " " + there(m), "1 0 1 2 18 19");
+        parentsWithHigherNumbers();
+        firstAndLastProperty();
+    }
+
+    private static void parentsWithHigherNumbers() {
+        TaleMachine m = Tale.begun(0, 1, 0, MAKE, 0, DROP, MAKE, 0, INTO, 0, NOTHING, MAKE, 17, END);
+        m.run(4);
+        Check.same("16 goes", m.collect(), 1);
+        Check.same("and is made of 17", m.run(9) + " " + m.isOf(16, 17), "1 true");
+        Check.same("17 is come to as a parent", m.collect() + " " + there(m), "0 0 1 2 16 17");
+    }
+
+    private static void firstAndLastProperty() {
+        TaleMachine m = Tale.begun(0, 0, 0, MAKE, 0, PUT_OBJECT, 1, SET, 0, MAKE, 0, PUT_OBJECT, 16, SET, 7, END_NIL);
+        m.run(9);
+        Check.same("a chain", m.collect() + " " + there(m), "0 0 1 2 16 17");
+        m.property(1, 0, -1, 0);
+        Check.same("goes whole", m.collect() + " " + there(m), "2 0 1 2");
     }
 
     private static void whatDoesNotCount() {

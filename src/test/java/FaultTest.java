@@ -73,6 +73,10 @@ final class FaultTest implements Instructions {
         isFault("SET with an OBJECT alone", 1, PUT_OBJECT, 0, SET, 0);
         isFault("is of", 0, TEST_OF, 0);
         isFault("an argument for INHERITED", 0, INHERITED, 1, 7);
+        isFault("an argument for ASK of a method, but a local", 4,
+                PUT_METHOD, 0, 14, PUT_OBJECT, 1, SET, 1, PUT_OBJECT, 2, ASK, 1, 1, 1, 0, 0, END_NIL);
+        isFault("an argument for INHERITED of a method, but a local", 3,
+                PUT_METHOD, 0, 14, PUT_OBJECT, 1, SET, 7, INHERITED, 1, 7, 0, 0, 1, 0, 0, END_NIL);
         isFault("an argument for a call", 1, PUT_NIL, CALL, 2, 0, 11, 0, 2, 0, 0, END_NIL);
         isFault("what the frame below has put", 2, PUT_NIL, CALL, 0, 0, 8, 0, 0, 0, DROP);
     }
@@ -125,11 +129,29 @@ final class FaultTest implements Instructions {
         isFault("thrown", 6, Tale.join(gone, Tale.bytes(LOCAL, 0, THROW)));
         isFault("asked", 6, Tale.join(gone, Tale.bytes(LOCAL, 0, ASK, 0, 0)));
         isFault("set", 7, Tale.join(gone, Tale.bytes(PUT_NIL, LOCAL, 0, SET, 0)));
+        selfOrFoundNotThere();
         Check.same("but it may stand anywhere", Tale.told(Tale.join(Tale.bytes(0, 1, 0), gone, Tale.bytes(
                 LOCAL, 0, SAY, LOCAL, 0, TEST_OF, 0, SAY, LOCAL, 0, PUT_OBJECT, 1, SET, 2,
                 LOCAL, 0, NOT, SAY, PUT_OBJECT, 1, ASK, 0, 2, END))), "1 said 3:16 0:0 0:0 result 3:16");
         Check.same("and is the one that takes its number", Tale.told(Tale.join(Tale.bytes(0, 1, 0), gone, Tale.bytes(
                 MAKE, 1, DROP, LOCAL, 0, TEST_OF, 1, END))), "1 said result 1:1");
+    }
+
+    private static void selfOrFoundNotThere() {
+        // The method is 16's own, and 17 is made of 16: undone, one of the two numbers is taken again.
+        int[] start = {0, 0, 0, POINT, MAKE, 0, DROP, MAKE, 16, DROP,
+            PUT_METHOD, 0, 24, PUT_OBJECT, 16, SET, 0, PUT_OBJECT, 17, ASK, 0, 0, END, 0};
+        TaleMachine self = Tale.begun(Tale.join(start, Tale.bytes(
+                0, 0, 0, UNDO, DROP, MAKE, 1, DROP, INHERITED, 0, 0, END)));
+        Check.same("SELF is not there, FOUND is", Tale.rest(self) + " " + self.isOf(16, 1), "3 said at 32 true");
+        // Here 16 is made of 17, for it has gone by collecting before.
+        TaleMachine found = Tale.begun(0, 1, 0, POINT, MAKE, 0, DROP, MAKE, 0, INTO, 0,
+                MAKE, 17, DROP, PUT_METHOD, 0, 27, PUT_OBJECT, 17, SET, 0, PUT_OBJECT, 16, ASK, 0, 0, END,
+                0, 0, 0, UNDO, DROP, MAKE, 1, DROP, INHERITED, 0, 0, END);
+        found.run(5);
+        Check.same("16 goes", found.collect(), 1);
+        Check.same("FOUND is not there, SELF is", Tale.rest(found) + " " + found.isOf(16, 1), "3 said at 35 true");
+        Check.same("SELF", found.show(2), 16);
     }
 
     private static void methodsThatCannotBeCalled() {

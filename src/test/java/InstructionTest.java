@@ -82,6 +82,7 @@ final class InstructionTest implements Instructions {
         Check.same("if FALSE: 0", Tale.told(0, 0, 0, BYTE, 0, UNLESS, 1, END_NIL, BYTE, 2, END), "1 said result 2:2");
         Check.same("if FALSE: OBJECT 0", Tale.told(0, 0, 0, PUT_OBJECT, 0, UNLESS, 1, END_NIL, BYTE, 2, END),
                 "1 said result 0:0");
+        Check.same("if FALSE: back", Tale.told(0, 0, 0, JUMP, 3, BYTE, 7, END, PUT_NIL, UNLESS, -6), "1 said result 2:7");
         Check.same("the value is taken", stackAfter(3, 0, 0, 0, BYTE, 5, PUT_TRUE, UNLESS, 9), "2:5");
         TaleMachine m = Tale.begun(0, 0, 0, JUMP, -128);
         Check.same("the jump is done", m.run(1), 0);
@@ -105,9 +106,10 @@ final class InstructionTest implements Instructions {
     }
 
     private static void lowestFreeNumber() {
-        TaleMachine m = Tale.begun(0, 1, 0, BYTE, 5, MAKE, 0, SET, 1, MAKE, 1, INTO, 0, MAKE, 0, NOTHING, END);
-        m.run(3);
-        Check.same("16 has an own value", m.has(16, 1, 1), 5);
+        TaleMachine m = Tale.begun(0, 1, 0, BYTE, 5, MAKE, 0, SET, 0, BYTE, 6, PUT_OBJECT, 16, SET, 6,
+                MAKE, 1, INTO, 0, MAKE, 0, NOTHING, END);
+        m.run(6);
+        Check.same("16 has own values", m.has(16, 0, 1) + " " + m.has(16, 6, 1), "5 6");
         m.run(2);
         Check.same("16 goes", m.collect(), 1);
         m.run(1);
