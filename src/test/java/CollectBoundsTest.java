@@ -79,7 +79,8 @@ final class CollectBoundsTest implements Instructions {
         collected("an argument", after(2, 0, 0, 0, MAKE, 0, CALL, 1, 0, 9, 1, 0, 0, NOTHING), 0, 16);
         collected("of the frame below", after(2, 0, 0, 0, MAKE, 0, CALL, 0, 0, 9, 0, 0, 0, NOTHING), 0, 16);
         collected("the lowest of 40", after(40, Tale.join(Tale.bytes(0, 0, 0, MAKE, 0), Tale.times(39, PUT_NIL))), 0, 16);
-        collected("the highest of 40", after(40, Tale.join(Tale.bytes(0, 0, 0), Tale.times(39, PUT_NIL), Tale.bytes(MAKE, 0))), 0, 16);
+        collected("the highest of 40", after(40, Tale.join(
+                Tale.bytes(0, 0, 0), Tale.times(39, PUT_NIL), Tale.bytes(MAKE, 0))), 0, 16);
         collected("of eight frames", after(8, 0, 1, 0, MAKE, 0, CALL, 0, 0, 9, 0, 0, 0, CALL, 0, 0, 9), 0, 16);
         collected("taken", after(3, 0, 0, 0, PUT_NIL, MAKE, 0, DROP), 1);
         collected("above what is left", after(4, 0, 0, 0, PUT_NIL, MAKE, 0, MAKE, 0, DROP), 1, 16);
@@ -98,7 +99,8 @@ final class CollectBoundsTest implements Instructions {
     /** 16 is made, and what is asked in it is found in 0; or it is a parent of 17, which is asked. */
     private static void selfAndFound() {
         int[] code = {0, 0, 0, MAKE, 0, ASK, 0, 6, NOTHING, 0, 0, 0, NOTHING, CALL, 0, 0, 17, 0, 0, 0, NOTHING, END_NIL};
-        Story story = Story.with("SELF", code).then(Call.property(0, 6, METHOD, 9), Call.property(2, 7, METHOD, 0), Call.begin(2, 7));
+        Story story = Story.with("SELF", code)
+                .then(Call.property(0, 6, METHOD, 9), Call.property(2, 7, METHOD, 0), Call.begin(2, 7));
         collected("SELF of the topmost frame", story.then(Call.run(2)).machine(), 0, 16);
         TaleMachine below = story.then(Call.run(4)).machine();
         Check.same("three frames", below.show(0) + " self " + below.show(2), "3 self -1");
@@ -182,7 +184,8 @@ final class CollectBoundsTest implements Instructions {
     }
 
     private static void rings() {
-        int[] ring = {0, 0, 0, MAKE, 0, PUT_OBJECT, 16, SET, 0, MAKE, 0, MAKE, 17, SET, 1, PUT_OBJECT, 18, PUT_OBJECT, 17, SET, 2};
+        int[] ring = {0, 0, 0, MAKE, 0, PUT_OBJECT, 16, SET, 0,
+            MAKE, 0, MAKE, 17, SET, 1, PUT_OBJECT, 18, PUT_OBJECT, 17, SET, 2};
         collected("one that has itself, and two that have each other", after(9, ring), 3);
         collected("one of the two on the stack", after(10, Tale.join(ring, Tale.bytes(PUT_OBJECT, 17))), 1, 17, 18);
     }
@@ -194,7 +197,8 @@ final class CollectBoundsTest implements Instructions {
         collected("saved in 0", after(3, 0, 0, 0, MAKE, 0, SAVE, 0, DROP), 1);
         collected("saved in 1", after(3, 0, 0, 0, MAKE, 0, SAVE, 1, DROP), 1);
         // Object 1 had it as its own value when the point was set and all was saved.
-        TaleMachine held = after(9, 0, 0, 0, MAKE, 0, PUT_OBJECT, 1, SET, 0, POINT, SAVE, 0, SAVE, 1, PUT_NIL, PUT_OBJECT, 1, SET, 0);
+        TaleMachine held = after(9, 0, 0, 0, MAKE, 0, PUT_OBJECT, 1, SET, 0, POINT, SAVE, 0, SAVE, 1,
+                PUT_NIL, PUT_OBJECT, 1, SET, 0);
         collected("had when the point was set", held, 1);
     }
 

@@ -1,192 +1,212 @@
+import java.util.Arrays;
 import java.util.NoSuchElementException;
 
-/** Promise 6: faults: the run is over (3), and the instruction has done nothing. */
+/**
+ * Promise 6 and the paragraph "A FAULT": the run is over (3), and the instruction has done nothing. Here are kinds of
+ * values, n where nothing is called, objects that are not there, SELF and FOUND, and what may well be done with an
+ * OBJECT that is not there. The other cases stand with their limits: no instruction, places and bytes outside
+ * (CodeBoundsTest), properties, objects and free numbers (ObjectBoundsTest), locals and frames (FrameBoundsTest),
+ * methods and n (MethodBoundsTest), what is taken and the stack (StackBoundsTest), s and a 51st value said
+ * (HistoryBoundsTest).
+ */
 final class FaultTest implements Instructions {
     public static void main(String[] args) {
-        noInstruction();
-        outsideOfTheCode();
-        nothingToTake();
-        wrongKinds();
-        wrongNumbers();
-        notThere();
-        methodsThatCannotBeCalled();
-        noFreeNumber();
-        fullStack();
+        kindsOfNumbers();
+        kindsOfObjects();
+        nWhereNothingIsCalled();
+        notThereWhereAskedFor();
+        notThereWhereNot();
+        selfAndFound();
+        foundOutsideOfTheLine();
+        noSelf();
+        theNextOneOfItsNumber();
         whatStays();
         Check.end();
     }
 
-    /** The code of a body that puts `before` values in as many instructions, and then has a wrong one. */
-    private static void isFault(String what, int before, int... body) {
-        TaleMachine m = Tale.begun(Tale.join(Tale.bytes(0, 1, 0), body));
-        Check.same(what + ": before", m.run(before), 0);
-        String was = state(m);
-        Check.same(what, m.run(1), 3);
-        Check.same(what + ": nothing done", state(m), was);
-        Check.same(what + ": again", m.run(3000), 3);
-        Check.no(what + ": stop", m.stop());
-    }
+    private static final int[][] PUTS = {
+        {PUT_NIL}, {PUT_TRUE}, {BYTE, 1}, {PUT_OBJECT, 1}, {PUT_METHOD, 0, 1}};
 
-    private static String state(TaleMachine m) {
-        StringBuilder text = new StringBuilder(Tale.stack(m));
-        for (int what : new int[] {0, 1, 2, 4, 5}) {
-            text.append(' ').append(m.show(what));
-        }
-        return text.toString();
-    }
-
-    private static void noInstruction() {
-        for (int b = 35; b < 256; b++) {
-            isFault("byte " + b, 0, b, 0, 0, 0, 0);
-        }
-    }
-
-    private static void outsideOfTheCode() {
-        int[] lengths = {
-            1, 2, 5, 1, 1, 2, 3, 2, 2, 1, 1, 1, 1, 1, 1, 1, 1, 1, 1, 2, 2, 3, 2, 3, 4, 1, 1, 1, 2, 2, 1, 1, 1, 2, 2};
-        isFault("no byte", 0);
-        for (int b = 0; b < lengths.length; b++) {
-            for (int has = 1; has < lengths[b]; has++) {
-                int[] part = new int[has];
-                part[0] = b;
-                isFault("instruction " + b + " with " + has + " bytes", 3,
-                        Tale.join(Tale.bytes(PUT_TRUE, PUT_TRUE, PUT_OBJECT, 0), part));
+    /** "kind of a value that is not as said": 12 to 16 want two NUMBERS. */
+    private static void kindsOfNumbers() {
+        for (int operation = PLUS; operation <= LESS; operation++) {
+            for (int first = NIL; first <= METHOD; first++) {
+                for (int second = NIL; second <= METHOD; second++) {
+                    Story story = Story.begun(operation + " of the kinds " + first + " and " + second, Tale.join(
+                            Tale.bytes(0, 0, 0), PUTS[first], PUTS[second], Tale.bytes(operation))).then(Call.run(2));
+                    if (first == NUMBER && second == NUMBER) {
+                        Twins.done(story, 0);
+                    } else {
+                        Twins.fault(story);
+                    }
+                }
             }
         }
-        isFault("behind the end", 1, JUMP, 0);
-        isFault("far behind it", 1, JUMP, 127);
-        isFault("before the start", 1, JUMP, -6);
-    }
-
-    private static void nothingToTake() {
-        for (int b : new int[] {AGAIN, DROP, NOT, END, THROW, SAY, PLUS, MINUS, TIMES, OVER, LESS, LIKE}) {
-            isFault("nothing for " + b, 0, b);
-        }
-        for (int b : new int[] {PLUS, MINUS, TIMES, OVER, LESS, LIKE}) {
-            isFault("one for " + b, 1, BYTE, 1, b);
-        }
-        isFault("into a local", 0, INTO, 0);
-        isFault("a jump", 0, UNLESS, 0);
-        isFault("an ASK", 0, ASK, 0, 0);
-        isFault("an argument for ASK", 1, PUT_OBJECT, 0, ASK, 1, 0);
-        isFault("SET", 0, SET, 0);
-        isFault("SET with an OBJECT alone", 1, PUT_OBJECT, 0, SET, 0);
-        isFault("is of", 0, TEST_OF, 0);
-        isFault("an argument for INHERITED", 0, INHERITED, 1, 7);
-        isFault("an argument for ASK of a method, but a local", 4,
-                PUT_METHOD, 0, 14, PUT_OBJECT, 1, SET, 1, PUT_OBJECT, 2, ASK, 1, 1, 1, 0, 0, END_NIL);
-        isFault("an argument for INHERITED of a method, but a local", 3,
-                PUT_METHOD, 0, 14, PUT_OBJECT, 1, SET, 7, INHERITED, 1, 7, 0, 0, 1, 0, 0, END_NIL);
-        isFault("an argument for a call", 1, PUT_NIL, CALL, 2, 0, 11, 0, 2, 0, 0, END_NIL);
-        isFault("what the frame below has put", 2, PUT_NIL, CALL, 0, 0, 8, 0, 0, 0, DROP);
-    }
-
-    private static void wrongKinds() {
-        for (int operation : new int[] {PLUS, MINUS, TIMES, OVER, LESS}) {
-            isFault("NIL first", 2, PUT_NIL, BYTE, 0, operation);
-            isFault("TRUE second", 2, BYTE, 0, PUT_TRUE, operation);
-            isFault("OBJECT first", 2, PUT_OBJECT, 1, BYTE, 0, operation);
-            isFault("METHOD second", 2, BYTE, 1, PUT_METHOD, 0, 0, operation);
-        }
-        isFault("ASK NIL", 1, PUT_NIL, ASK, 0, 0);
-        isFault("ASK NUMBER", 1, BYTE, 0, ASK, 0, 0);
-        isFault("ASK METHOD", 1, PUT_METHOD, 0, 0, ASK, 0, 0);
-        isFault("SET NUMBER", 2, PUT_OBJECT, 0, BYTE, 0, SET, 0);
-        isFault("throw NUMBER", 1, BYTE, 0, THROW);
-        isFault("throw NIL", 1, PUT_NIL, THROW);
-    }
-
-    private static void wrongNumbers() {
-        isFault("local 1 of one", 0, LOCAL, 1);
-        isFault("local 255", 0, LOCAL, 255);
-        isFault("into local 1 of one", 1, PUT_NIL, INTO, 1);
-        isFault("into local 255", 1, PUT_NIL, INTO, 255);
-        for (int p : new int[] {8, 255}) {
-            isFault("ASK for " + p, 1, PUT_OBJECT, 0, ASK, 0, p);
-            isFault("SET for " + p, 2, PUT_NIL, PUT_OBJECT, 0, SET, p);
-            isFault("INHERITED for " + p, 0, INHERITED, 0, p);
-        }
-        int[] five = {PUT_NIL, PUT_NIL, PUT_NIL, PUT_NIL, PUT_OBJECT, 2};
-        isFault("n 4 for ASK", 5, Tale.join(five, Tale.bytes(ASK, 4, 7)));
-        isFault("n 4 for INHERITED", 4, PUT_NIL, PUT_NIL, PUT_NIL, PUT_NIL, INHERITED, 4, 7);
-        isFault("n 4 for a call", 4, PUT_NIL, PUT_NIL, PUT_NIL, PUT_NIL, CALL, 4, 0, 11, 4, 0, 0, END_NIL);
-        isFault("n 0 for INHERITED of nothing but with one", 1, PUT_NIL, INHERITED, 1, 7);
-        for (int s : new int[] {2, 255}) {
-            isFault("save in " + s, 0, SAVE, s);
-            isFault("load from " + s, 0, LOAD, s);
+        for (int first = NIL; first <= METHOD; first++) {
+            if (first != NUMBER) {
+                Twins.fault(Story.begun("OVER 0 of the kind " + first, Tale.join(
+                        Tale.bytes(0, 0, 0), PUTS[first], Tale.bytes(BYTE, 0, OVER))).then(Call.run(2)));
+            }
         }
     }
 
-    private static void notThere() {
-        for (int o : new int[] {3, 15, 16, 31, 32, 255}) {
-            isFault("put " + o, 0, PUT_OBJECT, o);
-            isFault("make of " + o, 0, MAKE, o);
-            isFault("is of " + o, 1, PUT_OBJECT, 0, TEST_OF, o);
-            isFault("NIL is of " + o, 1, PUT_NIL, TEST_OF, o);
+    /** 21, 22 and 27 want an OBJECT on top. */
+    private static void kindsOfObjects() {
+        int[][] asking = {{ASK, 0, 3}, {SET, 3}, {THROW}};
+        for (int[] one : asking) {
+            for (int kind = NIL; kind <= METHOD; kind++) {
+                Story story = Story.begun(one[0] + " with the kind " + kind, Tale.join(
+                        Tale.bytes(0, 0, 0, PUT_OBJECT, 1), PUTS[kind], one)).then(Call.run(2));
+                if (kind == OBJECT) {
+                    Twins.done(story, one[0] == THROW ? 2 : 0);
+                } else {
+                    Twins.fault(story);
+                }
+            }
         }
-        int[] gone = {POINT, MAKE, 0, INTO, 0, UNDO, DROP};
-        isFault("named", 5, Tale.join(gone, Tale.bytes(PUT_OBJECT, 16)));
-        isFault("thrown", 6, Tale.join(gone, Tale.bytes(LOCAL, 0, THROW)));
-        isFault("asked", 6, Tale.join(gone, Tale.bytes(LOCAL, 0, ASK, 0, 0)));
-        isFault("set", 7, Tale.join(gone, Tale.bytes(PUT_NIL, LOCAL, 0, SET, 0)));
-        selfOrFoundNotThere();
-        Check.same("but it may stand anywhere", Tale.told(Tale.join(Tale.bytes(0, 1, 0), gone, Tale.bytes(
-                LOCAL, 0, SAY, LOCAL, 0, TEST_OF, 0, SAY, LOCAL, 0, PUT_OBJECT, 1, SET, 2,
-                LOCAL, 0, NOT, SAY, PUT_OBJECT, 1, ASK, 0, 2, END))), "1 said 3:16 0:0 0:0 result 3:16");
-        Check.same("and is the one that takes its number", Tale.told(Tale.join(Tale.bytes(0, 1, 0), gone, Tale.bytes(
-                MAKE, 1, DROP, LOCAL, 0, TEST_OF, 1, END))), "1 said result 1:1");
     }
 
-    private static void selfOrFoundNotThere() {
-        // The method is 16's own, and 17 is made of 16: undone, one of the two numbers is taken again.
-        int[] start = {0, 0, 0, POINT, MAKE, 0, DROP, MAKE, 16, DROP,
-            PUT_METHOD, 0, 24, PUT_OBJECT, 16, SET, 0, PUT_OBJECT, 17, ASK, 0, 0, END, 0};
-        TaleMachine self = Tale.begun(Tale.join(start, Tale.bytes(
-                0, 0, 0, UNDO, DROP, MAKE, 1, DROP, INHERITED, 0, 0, END)));
-        Check.same("SELF is not there, FOUND is", Tale.rest(self) + " " + self.isOf(16, 1), "3 said at 32 true");
-        // Here 16 is made of 17, for it has gone by collecting before.
-        TaleMachine found = Tale.begun(0, 1, 0, POINT, MAKE, 0, DROP, MAKE, 0, INTO, 0,
-                MAKE, 17, DROP, PUT_METHOD, 0, 27, PUT_OBJECT, 17, SET, 0, PUT_OBJECT, 16, ASK, 0, 0, END,
-                0, 0, 0, UNDO, DROP, MAKE, 1, DROP, INHERITED, 0, 0, END);
-        found.run(5);
-        Check.same("16 goes", found.collect(), 1);
-        Check.same("FOUND is not there, SELF is", Tale.rest(found) + " " + found.isOf(16, 1), "3 said at 35 true");
-        Check.same("SELF", found.show(2), 16);
-    }
-
-    private static void methodsThatCannotBeCalled() {
-        isFault("behind the code", 0, CALL, 0, 1, 44);
-        isFault("at 65535", 0, CALL, 0, 255, 255);
-        isFault("without a whole head", 0, CALL, 0, 0, 7, 0, 0);
-        isFault("with other arguments", 0, CALL, 0, 0, 7, 1, 0, 0, END_NIL);
-        isFault("with four locals", 0, CALL, 0, 0, 7, 0, 4, 0, END_NIL);
-        isFault("with four handlers", 0, Tale.join(Tale.bytes(CALL, 0, 0, 7, 0, 0, 4), Tale.times(17, 0)));
-        isFault("without its handlers", 0, CALL, 0, 0, 7, 0, 0, 1, 0, 0, 0);
-        isFault("without an instruction, but up to its beginning", 1, CALL, 0, 0, 7, 0, 0, 0);
-        isFault("asked", 4, PUT_METHOD, 255, 0, PUT_OBJECT, 1, SET, 1, PUT_OBJECT, 2, ASK, 0, 1);
-        isFault("inherited", 3, PUT_METHOD, 255, 0, PUT_OBJECT, 1, SET, 7, INHERITED, 0, 7);
-        isFault("asked with too few arguments", 1, PUT_OBJECT, 2, ASK, 1, 7);
-    }
-
-    private static void noFreeNumber() {
-        isFault("a 17th made object", 16, Tale.times(17, MAKE, 1));
-    }
-
-    private static void fullStack() {
-        int[] full = Tale.times(39, PUT_NIL);
-        int[][] putting = {
-            {BYTE, 1}, {WORD, 0, 0, 0, 0}, {PUT_NIL}, {PUT_TRUE}, {PUT_OBJECT, 0}, {PUT_METHOD, 0, 0}, {LOCAL, 0},
-            {SELF}, {AGAIN}, {MAKE, 0}, {UNDO}, {LOAD, 0}, {INHERITED, 0, 7}
-        };
-        for (int[] one : putting) {
-            isFault("full, " + one[0], 39, Tale.join(full, one));
+    /** "otherwise n must be 0, and what it has is put (NIL, if nothing)": for 21 and for 23. */
+    private static void nWhereNothingIsCalled() {
+        String[] due = {"0:0", "0:0", "1:1", "2:7", "3:1"};
+        for (int kind = -1; kind <= OBJECT; kind++) {
+            for (int n : new int[] {0, 1, 2, 3, 4, 255}) {
+                int[] puts = Tale.times(4, PUT_TRUE);
+                int value = kind == OBJECT ? 1 : 7;
+                Story ask = Story.with("21, n " + n + ", of the kind " + kind, Tale.join(
+                        Tale.bytes(0, 0, 0), puts, Tale.bytes(PUT_OBJECT, 2, ASK, n, 1)))
+                        .then(Call.property(0, 1, kind, value), Call.property(2, 7, METHOD, 0), Call.begin(2, 7), Call.run(5));
+                Story inherited = Story.with("23, n " + n + ", of the kind " + kind, Tale.join(
+                        Tale.bytes(0, 0, 0), puts, Tale.bytes(INHERITED, n, 1)))
+                        .then(Call.property(0, 1, kind, value), Call.property(2, 7, METHOD, 0), Call.begin(2, 7), Call.run(4));
+                if (n == 0) {
+                    Check.same(ask.name(), Tale.stack(Twins.done(ask, 0)), "1:1 1:1 1:1 1:1 " + due[kind + 1]);
+                    Check.same(inherited.name(), Tale.stack(Twins.done(inherited, 0)), "1:1 1:1 1:1 1:1 " + due[kind + 1]);
+                } else {
+                    Twins.fault(ask);
+                    Twins.fault(inherited);
+                }
+            }
         }
-        isFault("a call with locals", 39, Tale.join(full, Tale.bytes(CALL, 0, 0, 46, 0, 1, 0, END_NIL)));
-        isFault("an undo does not undo", 42, Tale.join(Tale.bytes(POINT, MAKE, 1, DROP), full, Tale.bytes(UNDO)));
-        TaleMachine m = Tale.begun(Tale.join(Tale.bytes(0, 1, 0, SAVE, 1, MAKE, 1, DROP), full, Tale.bytes(LOAD, 1)));
-        Check.same("nor does a load", m.run(3000) + " " + m.show(4), "3 4");
     }
 
+    /** OBJECT 16, which is not there any more, lies on the stack; what is written next is done next. */
+    private static Story gone(String name, int... next) {
+        return Story.begun(name, Tale.join(Tale.bytes(0, 1, 0, POINT, MAKE, 0, UNDO, DROP), next)).then(Call.run(4));
+    }
+
+    /** "an object (named, taken where an OBJECT is asked for, .. thrown) that is not there". */
+    private static void notThereWhereAskedFor() {
+        Twins.fault(gone("5", PUT_OBJECT, 16));
+        Twins.fault(gone("28", MAKE, 16));
+        Twins.fault(gone("29", TEST_OF, 16));
+        Twins.fault(gone("21", ASK, 0, 0));
+        Twins.fault(gone("21 with an argument", PUT_NIL, LOCAL, 0, ASK, 1, 0).then(Call.run(2)));
+        Twins.fault(gone("22", INTO, 0, PUT_NIL, LOCAL, 0, SET, 0).then(Call.run(3)));
+        Twins.fault(gone("27", THROW));
+        // The same with 17 there, so that only the number decides.
+        Twins.fault(Story.begun("16 of two", 0, 1, 0, MAKE, 0, DROP, MAKE, 0, INTO, 0, NOTHING, PUT_OBJECT, 16)
+                .then(Call.run(4), Call.collect(), Call.run(1)));
+        Twins.done(Story.begun("17 of two", 0, 1, 0, MAKE, 0, DROP, MAKE, 0, INTO, 0, NOTHING, PUT_OBJECT, 17)
+                .then(Call.run(4), Call.collect(), Call.run(1)), 0);
+    }
+
+    /** "Anywhere an OBJECT may stand that is not there": no other instruction asks. */
+    private static void notThereWhereNot() {
+        Check.same("7 and 8", Tale.stack(Twins.done(gone("into and out", INTO, 0, LOCAL, 0).then(Call.run(1)), 0)), "3:16 3:16");
+        Check.same("10", Tale.stack(Twins.done(gone("again", AGAIN), 0)), "0:0 3:16 3:16");
+        Check.same("11", Tale.stack(Twins.done(gone("dropped", DROP), 0)), "0:0");
+        Check.same("17", Tale.stack(Twins.done(gone("like", AGAIN, LIKE).then(Call.run(1)), 0)), "0:0 1:1");
+        Check.same("18", Tale.stack(Twins.done(gone("not", NOT), 0)), "0:0 0:0");
+        Check.same("20", Twins.done(gone("if FALSE", UNLESS, 5), 0).show(1), 10);
+        Check.same("29", Tale.stack(Twins.done(gone("is of", TEST_OF, 0), 0)), "0:0 0:0");
+        TaleMachine own = Twins.done(gone("its own value", PUT_OBJECT, 1, SET, 4).then(Call.run(1)), 0);
+        Check.same("22", Portrait.had(own, 2, 4), "3:16@1");
+        TaleMachine asked = Twins.done(gone("asked", PUT_OBJECT, 1, SET, 4, PUT_OBJECT, 2, ASK, 0, 4).then(Call.run(3)), 0);
+        Check.same("21 puts it", Tale.stack(asked), "0:0 3:16");
+        TaleMachine argument = Twins.done(gone("argument", CALL, 1, 0, 13, 0, 1, 0, 0, END_NIL), 0);
+        Check.same("24", Tale.stack(argument) + " in " + argument.show(0), "0:0 3:16 in 2");
+        TaleMachine said = Twins.done(gone("said", SAY), 0);
+        Check.same("30", said.said(0, 0) + ":" + said.said(0, 1), "3:16");
+        TaleMachine ended = Twins.done(gone("ended", END), 1);
+        Check.same("25", ended.said(-1, 0) + ":" + ended.said(-1, 1), "3:16");
+        Check.same("has", Portrait.had(gone("has", PUT_OBJECT, 1, SET, 4).then(Call.run(2)).machine(), 1, 4), "3:16@1");
+    }
+
+    /**
+     * A run in which SELF is 17 and FOUND 16, made of 1 and of 16; both are undone then, and as many
+     * objects of 0 are made again. What is written next is done next.
+     */
+    private static Story undoneAndMade(String name, int again, int... next) {
+        int[] caller = {0, 0, 0, POINT, MAKE, 1, DROP, MAKE, 16, DROP,
+            PUT_METHOD, 0, 30, PUT_OBJECT, 16, SET, 1, PUT_OBJECT, 17, ASK, 0, 1};
+        return Story.begun(name, Tale.join(Arrays.copyOf(caller, 30), Tale.bytes(0, 0, 0, UNDO, DROP),
+                Tale.times(again, MAKE, 0, DROP), next)).then(Call.run(10 + 2 + 2 * again));
+    }
+
+    /** 23: "both SELF and FOUND must be there". */
+    private static void selfAndFound() {
+        Story neither = undoneAndMade("neither is there", 0, INHERITED, 0, 1);
+        Check.same("SELF", neither.machine().show(2) + " of " + neither.machine().show(4), "17 of 3");
+        Twins.fault(neither);
+        Story found = undoneAndMade("FOUND is there, SELF is not", 1, INHERITED, 0, 1);
+        Check.same("16", found.machine().isOf(16, 0) + " " + found.machine().isOf(17, 0), "true false");
+        Twins.fault(found);
+        Twins.done(undoneAndMade("both are there", 2, INHERITED, 0, 1), 0);
+        selfWithoutFound();
+        // 9 puts SELF "there or not".
+        for (int again = 0; again <= 2; again++) {
+            Check.same("SELF", Tale.stack(Twins.done(undoneAndMade("9 with " + again, again, SELF), 0)), "3:17");
+        }
+    }
+
+    /** Here 16 is made of 17, for another 16 has gone by collecting: SELF is 16, FOUND 17. */
+    private static void selfWithoutFound() {
+        int[] caller = {0, 1, 0, POINT, MAKE, 0, DROP, MAKE, 0, INTO, 0, MAKE, 17, DROP,
+            PUT_METHOD, 0, 30, PUT_OBJECT, 17, SET, 0, PUT_OBJECT, 16, ASK, 0, 0};
+        Story story = Story.begun("SELF is there, FOUND is not", Tale.join(Arrays.copyOf(caller, 30),
+                Tale.bytes(0, 0, 0, UNDO, DROP, MAKE, 1, DROP, INHERITED, 0, 0)))
+                .then(Call.run(5), Call.collect(), Call.run(11));
+        TaleMachine m = story.machine();
+        Check.same("SELF", m.show(2) + " " + m.isOf(16, 1) + " " + m.isOf(17, 17), "16 true false");
+        Twins.fault(story);
+    }
+
+    /** "if FOUND does not stand in SELF's line, SELF has nothing": NIL for n 0, whatever its line has; else a fault. */
+    private static void foundOutsideOfTheLine() {
+        int[] give = {BYTE, 4, PUT_OBJECT, 0, SET, 1, BYTE, 5, PUT_OBJECT, 17, SET, 1};
+        Story put = undoneAndMade("nothing behind it", 2, Tale.join(give, Tale.bytes(INHERITED, 0, 1))).then(Call.run(6));
+        Check.same("SELF has it", Portrait.had(put.machine(), 17, 1), "2:5@17");
+        Check.same("but nothing behind FOUND", Tale.stack(Twins.done(put, 0)), "0:0");
+        int[] method = {PUT_METHOD, 0, 30, PUT_OBJECT, 0, SET, 1};
+        Story called = undoneAndMade("no method behind it", 2, Tale.join(method, Tale.bytes(INHERITED, 0, 1))).then(Call.run(3));
+        TaleMachine m = Twins.done(called, 0);
+        Check.same("is not called", Tale.stack(m) + " in " + m.show(0), "0:0 in 2");
+        Twins.fault(undoneAndMade("n 1", 2, PUT_NIL, INHERITED, 1, 1).then(Call.run(1)));
+    }
+
+    /** A frame without SELF: 9 puts NIL, 23 is a fault, whatever objects there are. */
+    private static void noSelf() {
+        Story story = Story.begun("no SELF", 0, 0, 0, CALL, 0, 0, 8, 0, 0, 0, 0).then(Call.run(1));
+        Check.same("SELF", story.machine().show(2), -1);
+        Check.same("NIL", Tale.stack(Twins.done(story.write(SELF).named("9 without SELF"), 0)), "0:0");
+        Twins.fault(story.write(INHERITED, 0, 7).named("23 without SELF"));
+        Twins.fault(story.write(INHERITED, 0, 0).named("23 without SELF, for nothing"));
+    }
+
+    /** "if its number is taken again, it is that one": on the stack, as an own value, as SELF. */
+    private static void theNextOneOfItsNumber() {
+        TaleMachine m = gone("again", MAKE, 1, DROP, AGAIN, TEST_OF, 1, DROP, ASK, 0, 5).then(Call.run(5)).machine();
+        Check.same("OBJECT 16 on the stack is of 1 now", m.isOf(16, 1) + " " + Tale.stack(m), "true 0:0 3:16");
+        Check.same("it can be asked", m.run(1) + " " + Tale.stack(m), "0 0:0 0:0");
+        Story own = gone("own value", PUT_OBJECT, 1, SET, 4, MAKE, 2, DROP, BYTE, 3, PUT_OBJECT, 1, ASK, 0, 4, SET, 5)
+                .then(Call.run(7));
+        Check.same("its own value", Portrait.had(Twins.done(own, 0), 16, 5), "2:3@16");
+        Story self = undoneAndMade("SELF", 2, BYTE, 9, SELF, SET, 3).then(Call.run(2));
+        Check.same("SELF is the next 17", Portrait.had(Twins.done(self, 0), 17, 3), "2:9@17");
+    }
+
+    /** "frames stay as they are", what was said stays, and there is no result; only the points go. */
     private static void whatStays() {
         TaleMachine m = Tale.begun(0, 0, 0, POINT, MAKE, 1, SAY, BYTE, 3, CALL, 1, 0, 13, 1, 1, 0, POINT, DROP);
         m.run(6);

@@ -116,9 +116,11 @@ final class FrameBoundsTest implements Instructions {
             for (int locals = 0; locals <= 3; locals++) {
                 int behind = 5 + 2 * arguments + 4;
                 TaleMachine with = Twins.done(called(arguments, locals, END), 0);
-                Check.same("25", Tale.stack(with) + " at " + with.show(1) + " in " + with.show(0), "2:77 2:78 at " + behind + " in 1");
+                Check.same("25", Tale.stack(with) + " at " + with.show(1) + " in " + with.show(0),
+                        "2:77 2:78 at " + behind + " in 1");
                 TaleMachine nil = Twins.done(called(arguments, locals, END_NIL), 0);
-                Check.same("26", Tale.stack(nil) + " at " + nil.show(1) + " in " + nil.show(0), "2:77 0:0 at " + behind + " in 1");
+                Check.same("26", Tale.stack(nil) + " at " + nil.show(1) + " in " + nil.show(0),
+                        "2:77 0:0 at " + behind + " in 1");
             }
         }
         TaleMachine asked = Twins.done(Story.begun("asked", 0, 0, 0, SELF, ASK, 0, 1, NOTHING, 0, 0, 0, END_NIL)

@@ -11,6 +11,7 @@ final class HandlerBoundsTest implements Instructions {
         argumentsAndLocalsAlone();
         objects();
         madeObjects();
+        theInnermost();
         framesGo();
         uncaught();
         whatCannotBeThrown();
@@ -185,6 +186,28 @@ final class HandlerBoundsTest implements Instructions {
         for (int last : new int[] {30, 31}) {
             Twins.done(thrown(last - 15, last, last), 0);
             Twins.done(thrown(last - 15, last, last - 1), 2);
+        }
+    }
+
+    /** Three frames, each with a handler that fits or without one: "of the frame on top", then "the one below". */
+    private static void theInnermost() {
+        for (int handlers = 0; handlers < 8; handlers++) {
+            int[] code = {};
+            for (int i = 0; i < 3; i++) {
+                int[] head = (handlers >> i & 1) == 1 ? Tale.bytes(0, i, 1, 0, 255, 0, 5 + i) : Tale.bytes(0, i, 0);
+                int[] body = i < 2 ? Tale.bytes(BYTE, 60 + i, CALL, 0, 0, 30 * (i + 1)) : Tale.bytes(PUT_OBJECT, 1, THROW);
+                code = Tale.join(code, Arrays.copyOf(Tale.join(head, body), 30));
+            }
+            Story story = Story.begun("handlers in the frames " + Integer.toBinaryString(handlers), code).then(Call.run(5));
+            Check.same("frames", story.machine().show(0), 3);
+            TaleMachine m = Twins.done(story, handlers == 0 ? 2 : 0);
+            int innermost = 31 - Integer.numberOfLeadingZeros(handlers);
+            Check.same(story.name(), m.show(0), innermost + 1);
+            if (handlers != 0) {
+                String[] stacks = {"3:1", "2:60 0:0 3:1", "2:60 0:0 2:61 0:0 0:0 3:1"};
+                Check.same(story.name(), m.show(1) + " " + Tale.stack(m),
+                        (30 * innermost + 7 + 5 + innermost) + " " + stacks[innermost]);
+            }
         }
     }
 

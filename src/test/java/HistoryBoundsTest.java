@@ -10,6 +10,7 @@ final class HistoryBoundsTest implements Instructions {
         undoneWithoutAPoint();
         allMadeSince();
         allWentByCollecting();
+        everyValueComesBack();
         slots();
         noSuchSlots();
         slotsAreTwo();
@@ -86,7 +87,8 @@ final class HistoryBoundsTest implements Instructions {
     }
 
     private static void undoneWithoutAPoint() {
-        Story story = Story.begun("nothing to undo", 0, 0, 0, MAKE, 1, PUT_OBJECT, 0, SET, 3, SAVE, 0, UNDO, END).then(Call.run(4));
+        Story story = Story.begun("nothing to undo", 0, 0, 0, MAKE, 1, PUT_OBJECT, 0, SET, 3, SAVE, 0, UNDO, END)
+                .then(Call.run(4));
         String before = Portrait.objects(story.machine());
         TaleMachine m = Twins.done(story, 0);
         Check.same("NIL", Tale.stack(m), "0:0");
@@ -115,6 +117,43 @@ final class HistoryBoundsTest implements Instructions {
             Check.same("and come back", m.run(1) + " " + m.show(4), "0 19");
             Check.same("as they were", Portrait.objects(m), before);
             Check.same("also this", m.isOf(31, 30) + " " + Portrait.had(m, 31, 3), "true 2:7@31");
+        }
+    }
+
+    private static final int[] EDGES = {0, 15, 16, 31};
+
+    private static String edges(TaleMachine m) {
+        StringBuilder text = new StringBuilder();
+        for (int o : EDGES) {
+            text.append(Portrait.had(m, o, 0)).append(' ').append(Portrait.had(m, o, 7)).append(' ');
+        }
+        return text.toString().trim();
+    }
+
+    /** "all objects are as they were": the first and the last property of the first and the last objects. */
+    private static void everyValueComesBack() {
+        int[] first = Tale.join(Tale.bytes(0, 0, 0), Tale.times(16, MAKE, 0, DROP), Tale.bytes(END_NIL));
+        int[][] ways = {{POINT, UNDO}, {SAVE, 0, LOAD, 0}, {SAVE, 1, LOAD, 1}};
+        for (int[] way : ways) {
+            int half = way.length / 2;
+            int[] second = Tale.join(Tale.bytes(0, 0, 0), Arrays.copyOf(way, half));
+            for (int o : EDGES) {
+                second = Tale.join(second, Tale.bytes(PUT_TRUE, PUT_OBJECT, o, SET, 0, PUT_TRUE, PUT_OBJECT, o, SET, 7));
+            }
+            Story story = Story.of("every value, " + way[0]);
+            for (int o = 0; o < 16; o++) {
+                story = story.then(Call.object(-1, -1, -1));
+            }
+            story = story.write(first).write(second).write(Arrays.copyOfRange(way, half, way.length))
+                    .then(Call.property(0, 3, METHOD, 0), Call.property(0, 4, METHOD, first.length),
+                            Call.begin(0, 3), Call.run(99));
+            for (int o : EDGES) {
+                story = story.then(Call.property(o, 0, NUMBER, o), Call.property(o, 7, NUMBER, 50 + o));
+            }
+            story = story.then(Call.begin(0, 4), Call.run(1 + 3 * 2 * EDGES.length));
+            Check.same("changed", edges(story.machine()), "1:1@0 1:1@0 1:1@15 1:1@15 1:1@16 1:1@16 1:1@31 1:1@31");
+            Check.same(story.name(), edges(Twins.done(story, 0)),
+                    "2:0@0 2:50@0 2:15@15 2:65@15 2:16@16 2:66@16 2:31@31 2:81@31");
         }
     }
 
@@ -152,6 +191,10 @@ final class HistoryBoundsTest implements Instructions {
             Check.same("0", m.run(2) + " " + Portrait.had(m, 0, 0), "0 2:4@0");
             Check.same("1", m.run(2) + " " + Portrait.had(m, 0, 0), "0 2:3@0");
         }
+        TaleMachine changed = Tale.begun(0, 0, 0, BYTE, 1, PUT_OBJECT, 0, SET, 0, SAVE, 1,
+                LOAD, 1, DROP, BYTE, 2, PUT_OBJECT, 0, SET, 0, LOAD, 1);
+        Check.same("changed after it was brought back", changed.run(9) + " " + Portrait.had(changed, 0, 0), "0 2:2@0");
+        Check.same("and brought back again", changed.run(1) + " " + Portrait.had(changed, 0, 0), "0 2:1@0");
     }
 
     /** 34: "all points go" if something is brought back; if there is nothing they stay, and can be undone. */

@@ -34,8 +34,8 @@ final class LifeTest implements Instructions {
 
     /** Run after run, each with points, states saved, made objects and frames, and a collect behind it. */
     private static void manyRuns() {
-        TaleMachine m = Tale.with(0, 1, 0, MAKE, 2, SAVE, 0, POINT, MAKE, 16, SAY, POINT, CALL, 1, 0, 21, SAY, LOAD, 0, SAY, END_NIL,
-                1, 2, 0, UNDO, SAY, LOCAL, 0, END);
+        TaleMachine m = Tale.with(0, 1, 0, MAKE, 2, SAVE, 0, POINT, MAKE, 16, SAY, POINT, CALL, 1, 0, 21, SAY,
+                LOAD, 0, SAY, END_NIL, 1, 2, 0, UNDO, SAY, LOCAL, 0, END);
         m.property(2, 7, METHOD, 0);
         int made = 3 + 8 + 1;
         while (made + 6 <= CALLS) {

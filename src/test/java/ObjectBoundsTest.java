@@ -13,6 +13,8 @@ final class ObjectBoundsTest implements Instructions {
         propertiesOfInstructions();
         everyOwnValue();
         noOwnValues();
+        noOwnValuesOfAnyNumber();
+        makingChangesNothingElse();
         lowestFreeNumber();
         lines();
         Check.end();
@@ -238,6 +240,48 @@ final class ObjectBoundsTest implements Instructions {
         for (int o = 0; o < 16; o++) {
             for (int p = 0; p < 8; p++) {
                 Check.same("a fixed one has none", Portrait.had(fresh, o, p), "-");
+            }
+        }
+    }
+
+    /** A method that makes 16 objects, one that makes one, and n made by the first; its METHODS are object 0's 3 and 4. */
+    private static Story madeAndOver(int fixed, int n) {
+        int[] many = Tale.join(Tale.bytes(0, 0, 0), Tale.times(16, MAKE, 0, DROP), Tale.bytes(END_NIL));
+        return fixed(fixed).write(many).write(0, 0, 0, MAKE, 0, END)
+                .then(Call.property(0, 3, METHOD, 0), Call.property(0, 4, METHOD, many.length),
+                        Call.begin(0, 3), Call.run(2 * n), Call.stop());
+    }
+
+    /** "without own values": also where one of the same number had them, for every number that can be made. */
+    private static void noOwnValuesOfAnyNumber() {
+        TaleMachine m = madeAndOver(1, 16).machine();
+        for (int o = 16; o < 32; o++) {
+            m.property(o, 0, NUMBER, o);
+            m.property(o, 7, OBJECT, o);
+        }
+        Check.same("all go", m.collect(), 16);
+        m.begin(0, 3);
+        Check.same("all are made again", m.run(99) + " " + m.show(4), "1 17");
+        for (int o = 16; o < 32; o++) {
+            for (int p = 0; p < 8; p++) {
+                Check.same(o + " for " + p, Call.has(o, p, 2).on(m), p == 3 || p == 4 ? "0" : "NoSuchElementException");
+            }
+        }
+    }
+
+    /** 28 makes one object: every other one stays as it was. */
+    private static void makingChangesNothingElse() {
+        for (int n = 0; n <= 15; n++) {
+            TaleMachine m = madeAndOver(16, n).machine();
+            for (int o = 0; o < 16 + n; o++) {
+                m.property(o, 0, NUMBER, o);
+                m.property(o, 7, NUMBER, 100 + o);
+            }
+            m.begin(0, 4);
+            Check.same("made", m.run(9) + " " + m.said(-1, 1), "1 " + (16 + n));
+            for (int o = 0; o < 16 + n; o++) {
+                Check.same("as it was", Portrait.had(m, o, 0) + " " + Portrait.had(m, o, 7),
+                        "2:" + o + "@" + o + " 2:" + (100 + o) + "@" + o);
             }
         }
     }

@@ -98,13 +98,14 @@ final class RunBoundsTest implements Instructions {
 
     /** "frames stay as they are after a FAULT or a stop"; after an end or uncaught there are none, and no values. */
     private static void framesAfterwards() {
-        TaleMachine under = Stories.UNDER_WAY.machine();
+        String under = Portrait.of(Stories.UNDER_WAY.machine());
         String points = "shown 2 7 16 2 ";
-        Check.yes("two points", Portrait.of(under).startsWith(points));
+        Check.yes("two points", under.startsWith(points));
         Check.same("stopped: all but the points", Portrait.of(Stories.STOPPED.machine()),
-                Portrait.of(under).replace(points, "shown 2 7 16 0 "));
+                under.replace(points, "shown 2 7 16 0 "));
         TaleMachine fault = Stories.FAULT.machine();
-        Check.same("fault", fault.show(0) + " self " + fault.show(2) + " stack " + Tale.stack(fault), "1 self 2 stack 0:0 3:16 1:1");
+        Check.same("fault", fault.show(0) + " self " + fault.show(2) + " stack " + Tale.stack(fault),
+                "1 self 2 stack 0:0 3:16 1:1");
         for (Story story : new Story[] {Stories.ENDED, Stories.UNCAUGHT}) {
             TaleMachine m = story.machine();
             Check.same(story.name(), m.show(0) + " stack " + Tale.stack(m), "0 stack ");

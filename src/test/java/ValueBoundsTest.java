@@ -16,6 +16,7 @@ final class ValueBoundsTest implements Instructions {
         less();
         overNothing();
         likes();
+        onlyObjectsAreOf();
         Check.end();
     }
 
@@ -182,6 +183,12 @@ final class ValueBoundsTest implements Instructions {
         with1.property(1, 0, METHOD, 0);
         with1.begin(1, 0);
         Check.same("it is OBJECT 0, not SELF", Tale.rest(with1), "2 said result 3:0");
+        TaleMachine alone = new TaleMachine();
+        alone.object(-1, -1, -1);
+        Tale.write(alone, 0, 0, 0, BYTE, 1, BYTE, 0, OVER);
+        alone.property(0, 0, METHOD, 0);
+        alone.begin(0, 0);
+        Check.same("with object 0 alone", Tale.rest(alone), "2 said result 3:0");
     }
 
     /** LIKE: the same kind and the same int, and nothing less. */
@@ -194,6 +201,19 @@ final class ValueBoundsTest implements Instructions {
                 Check.same("like " + a + " and " + b, result(Tale.join(puts[a], puts[b], Tale.bytes(LIKE))),
                         a == b ? IS_TRUE : IS_NIL);
             }
+        }
+    }
+
+    /** 29: "TRUE if it is an OBJECT that is of o, otherwise NIL": no other kind, though its int is an object's number. */
+    private static void onlyObjectsAreOf() {
+        for (int o = 0; o <= 2; o++) {
+            for (int number = 0; number <= 2; number++) {
+                Check.same("OBJECT", result(PUT_OBJECT, number, TEST_OF, o), number >= o ? IS_TRUE : IS_NIL);
+                Check.same("NUMBER", result(BYTE, number, TEST_OF, o), IS_NIL);
+                Check.same("METHOD", result(PUT_METHOD, 0, number, TEST_OF, o), IS_NIL);
+            }
+            Check.same("NIL", result(PUT_NIL, TEST_OF, o), IS_NIL);
+            Check.same("TRUE", result(PUT_TRUE, TEST_OF, o), IS_NIL);
         }
     }
 }
