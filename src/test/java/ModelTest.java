@@ -10,8 +10,15 @@ final class ModelTest implements Instructions {
     private static final int SLOTS = 8;
     private static final int CALLS = 512;
 
+    /** Of the phrases those that one mood likes: any; points and states; asking and inheriting; throwing. */
+    private static final int[][] LIKED = {
+        {}, {9, 14, 14, 14, 15, 15, 16, 22, 24}, {4, 5, 6, 7, 9, 11, 24}, {4, 6, 8, 12, 12, 13}};
+    private static final int HISTORY = 1;
+    private static final int THROWING = 3;
+
     private final Random random;
     private final long seed;
+    private final int mood;
     private final TaleMachine machine = new TaleMachine();
     private final PlainModel model = new PlainModel();
     private final int[] code = new int[SLOT * SLOTS];
@@ -26,10 +33,11 @@ final class ModelTest implements Instructions {
     private ModelTest(long seed) {
         this.seed = seed;
         random = new Random(seed);
+        mood = (int) (seed % LIKED.length);
     }
 
     public static void main(String[] args) {
-        int runs = args.length > 0 ? Integer.parseInt(args[0]) : 1500;
+        int runs = args.length > 0 ? Integer.parseInt(args[0]) : 6000;
         for (int seed = 0; seed < runs; seed++) {
             new ModelTest(seed).tell();
         }
@@ -127,8 +135,9 @@ final class ModelTest implements Instructions {
     }
 
     private void giveProperties() {
-        property(0, 0, METHOD, methodFor(0));
-        property(0, 4, METHOD, methodFor(0));
+        for (int p = 0; p < 8; p += mood == 0 ? 4 : 1) {
+            property(0, p, METHOD, methodFor(p & 3));
+        }
         for (int i = below(8) + fixed; i > 0; i--) {
             randomProperty();
         }
@@ -152,8 +161,8 @@ final class ModelTest implements Instructions {
             both("collect()", machine::collect, model::collect);
         } else if (which < 15 && outcome != 0) {
             randomProperty();
-        } else if (which == 15 && oneIn(4)) {
-            object(anyObject(), below(fixed + 2) - 1, oneIn(2) ? -1 : anyObject());
+        } else if (which == 15 && oneIn(mood == HISTORY ? 2 : 4)) {
+            object(oneIn(2) ? below(fixed + 1) - 1 : anyObject(), below(fixed + 2) - 1, oneIn(2) ? -1 : anyObject());
         } else if (which == 16 && oneIn(12)) {
             String due = both("stop()", () -> machine.stop() ? 1 : 0, () -> model.stop() ? 1 : 0);
             outcome = due.equals("1") ? 4 : outcome;
@@ -185,7 +194,7 @@ final class ModelTest implements Instructions {
                 both("stack(" + k + ", " + what + ")", () -> machine.stack(k, what), () -> model.stack(k, what));
             }
             case 2, 3 -> {
-                int shown = oneIn(20) ? below(10) - 2 : below(6);
+                int shown = oneIn(20) ? below(10) - 2 : mood == HISTORY && oneIn(2) ? 3 + below(2) : below(6);
                 both("show(" + shown + ")", () -> machine.show(shown), () -> model.show(shown));
             }
             case 4 -> {
@@ -229,10 +238,10 @@ final class ModelTest implements Instructions {
 
     private void writeMethod(int arguments, int end) {
         int locals = oneIn(20) ? below(6) : below(3);
-        int handlers = oneIn(20) ? below(5) : below(3);
+        int handlers = oneIn(20) ? below(5) : mood == THROWING ? 1 + below(3) : below(3);
         write(arguments, locals, handlers);
         for (int i = 0; i < handlers && i < 4; i++) {
-            int from = below(12);
+            int from = mood == THROWING ? 0 : below(12);
             write(from, from + below(24), oneIn(2) ? 0 : anyObject(), oneIn(3) ? below(30) : 18 + below(5));
         }
         while (at < end - 10) {
@@ -263,7 +272,7 @@ final class ModelTest implements Instructions {
     }
 
     private void target() {
-        switch (below(5)) {
+        switch (below(mood == HISTORY ? 3 : 5)) {
             case 0 -> write(SELF);
             case 1 -> write(MAKE, namedObject());
             default -> write(PUT_OBJECT, namedObject());
@@ -272,7 +281,8 @@ final class ModelTest implements Instructions {
 
     private void phrase(int locals) {
         int n = oneIn(2) ? 0 : below(4);
-        switch (below(24)) {
+        int[] liked = LIKED[mood];
+        switch (liked.length > 0 && oneIn(2) ? liked[below(liked.length)] : below(24)) {
             case 0, 1 -> value(locals);
             case 2 -> write(BYTE, below(256), BYTE, below(4) - 1, PLUS + below(5));
             case 3 -> write(oneIn(9) ? AGAIN : BYTE, 2, oneIn(9) ? LIKE : SAY);
@@ -335,6 +345,13 @@ final class ModelTest implements Instructions {
                 write(TEST_OF, namedObject());
             }
             case 22 -> write(MAKE, namedObject(), oneIn(2) ? DROP : SAY);
+            case 24 -> {
+                // A made object with a METHOD of its own, and perhaps a child of it that is asked.
+                int address = methodFor(0);
+                int k = below(Math.max(1, locals));
+                write(MAKE, namedObject(), INTO, k, PUT_METHOD, address >> 8, address, LOCAL, k, SET, 4);
+                write(oneIn(2) ? MAKE : PUT_OBJECT, 16 + below(3), ASK, 0, 4);
+            }
             default -> {
                 if (oneIn(6)) {
                     write(below(40));
