@@ -7,7 +7,6 @@ import java.util.ArrayList;
 import java.util.List;
 import java.util.regex.Matcher;
 import java.util.regex.Pattern;
-import javax.tools.ToolProvider;
 
 /** README.md's examples: each call in them answers, or throws, what its comment says first. */
 final class ReadmeTest {
@@ -26,7 +25,7 @@ final class ReadmeTest {
                 public static void tell(java.util.List<String[]> rows) {
             """;
 
-    public static void main(String[] args) throws IOException, ReflectiveOperationException {
+    public static void main(String[] args) throws IOException, InterruptedException, ReflectiveOperationException {
         Path built = Files.createTempDirectory("readme");
         try {
             List<String[]> rows = told(built, source(Files.readString(Path.of("README.md"))));
@@ -61,11 +60,12 @@ final class ReadmeTest {
         });
     }
 
-    private static List<String[]> told(Path built, String source) throws IOException, ReflectiveOperationException {
+    private static List<String[]> told(Path built, String source)
+            throws IOException, InterruptedException, ReflectiveOperationException {
         Path file = Files.writeString(built.resolve("Examples.java"), source);
-        int failed = ToolProvider.getSystemJavaCompiler().run(null, System.out, System.out,
-                "-cp", System.getProperty("java.class.path"), "-d", built.toString(), file.toString());
-        Check.same("the examples are compiled", failed, 0);
+        Process javac = new ProcessBuilder("javac", "--release", "17", "-cp", System.getProperty("java.class.path"),
+                "-d", built.toString(), file.toString()).inheritIO().start();
+        Check.same("the examples are compiled", javac.waitFor(), 0);
         List<String[]> rows = new ArrayList<>();
         try (URLClassLoader loader = new URLClassLoader(new URL[] {built.toUri().toURL()}, ReadmeTest.class.getClassLoader())) {
             loader.loadClass("Examples").getMethod("tell", List.class).invoke(null, rows);
